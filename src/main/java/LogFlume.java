@@ -853,8 +853,9 @@ public final class LogFlume {
         rows[m] = 0;
       }
       for (int e = 0; e < size && e < EVENTS; e++) {
-        if (kinds[e] == kind && (kept >> e & 1) == 1 && within(minutes[e], rows.length)) {
-          rows[minutes[e]] |= 1 << numbers[e];
+        int m = minutes[e];
+        if (kinds[e] == kind && (kept >> e & 1) == 1 && m >= 0 && m < rows.length) {
+          rows[m] |= 1 << numbers[e];
         }
       }
     }
