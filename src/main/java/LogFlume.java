@@ -15,6 +15,8 @@ public final class LogFlume {
   private static final int SHEETS = 4, FORMS = 3, ITEMS = 60, BYTES = 0, SHORTS = 1;
   private static final int NULL = 1, INDEX = 2, CAST = 3, STORE = 4, SIZE = 5;
   private static final int UNKNOWN = -1;
+  private static final int LEAST_INT = 1 << 31;
+  private static final long LEAST_LONG = 1L << 63;
   private static final int[] DIGEST_MINUTES = {0, 6, 13, 23};
 
   private final Text[] texts = new Text[TEXTS];
@@ -336,7 +338,7 @@ public final class LogFlume {
 
   public long chance(int c, int log, int what) {
     if (!within(c, 17) || !isLog(log) || !within(what, 2)) {
-      return Long.MIN_VALUE - BAD;
+      return LEAST_LONG - BAD;
     }
     long above = sixteenthsOut(c, log);
     if (above == 0) {
@@ -407,12 +409,12 @@ public final class LogFlume {
 
   public int get(int s, int form, int i) {
     if (!within(s, SHEETS) || !within(form, FORMS)) {
-      return Integer.MIN_VALUE;
+      return LEAST_INT;
     }
     int finding = sheets[s].findingAt(form, i);
     if (finding != 0) {
       latestFinding = finding;
-      return Integer.MIN_VALUE;
+      return LEAST_INT;
     }
     return sheets[s].items[i];
   }

@@ -136,6 +136,18 @@ final class ChanceBounds {
     }
   }
 
+  /**
+   * The SPAN ahead of this one bursts in the MINUTE in which the log is poled over it, so that here there
+   * is no WATER then but what this SPAN's own FEEDER lets in. If it goes on by that, another pole
+   * brings it away from the gap in the WATER, which goes down with it, and it is OUT in MINUTE 23;
+   * if not, the gap is under it behind the pole once more.
+   */
+  static LogFlume poledOverBurst(int span) {
+    LogFlume x = Due.told("", "", "j1s");
+    Due.events(x, new int[] {2, 8 + span, span - 1}, new int[] {0, 8 + span, 0}, new int[] {0, 10 + span, 0});
+    return x;
+  }
+
   private static void lotsAsFeeders() {
     Says.terms("SEASONS by a SEED: n LOTS of 10 (0 to 16) are FEEDERS, in place of what is told (0 at later SPANS):");
     LogFlume x = Due.told("", NINES, "a1s");
@@ -149,6 +161,14 @@ final class ChanceBounds {
     Due.is("it lies in 0", x.seasons(0, 1, 1), 23);
     x.event(0, 3, 0);
     Due.is("EVENTS are as told", x.seasons(7, 1, 1), 20);
+    for (int n = 10; n <= 12; n++) {
+      for (int span = 10; span <= 11; span++) {
+        LogFlume y = poledOverBurst(span);
+        boolean hasLot = span < n;
+        Due.is("n = " + n + ", OUT by the LOT of " + span, y.seasons(7, n, 0), hasLot ? 1 : 0);
+        Due.is("n = " + n + ", AGROUND without it", y.seasons(7, n, 1), hasLot ? 0 : 2);
+      }
+    }
   }
 
   private static void togetherAground() {

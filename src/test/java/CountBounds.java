@@ -15,6 +15,7 @@ final class CountBounds {
     countRefused();
     digestOfEach();
     digestWraps();
+    digestOfParts();
   }
 
   private static void counts(LogFlume x, int... want) {
@@ -160,5 +161,32 @@ final class CountBounds {
     Due.is("of the most that can be told", most.digest(), byParts(most));
     LogFlume faulty = Due.told("0", "x", "a1s;");
     Due.is("of FAULTS", faulty.digest(), byParts(faulty));
+  }
+
+  /** In each of these some part is other than it is where the digest could be of a wrong thing. */
+  private static void digestOfParts() {
+    Says.promise(37, "h is 17; h becomes 31 h and each of:");
+    LogFlume lastMinute = Due.told("", NINES, "h1s;a1l");
+    lastMinute.event(2, 18, 3);
+    lastMinute.event(2, 7, 2);
+    Due.is("of MINUTES 7, 18 and 23", lastMinute.digest(), byParts(lastMinute));
+    LogFlume steeper = Due.told("3333333333333233", NINES, "s1s");
+    steeper.event(0, 19, 0);
+    Due.is("of steep(0) 13, chance(5) 0", steeper.digest(), byParts(steeper));
+    LogFlume fuller = Due.told("3333333333332333", "0000000000000007", "s9s");
+    for (int minute = 19; minute <= 22; minute++) {
+      fuller.event(0, minute, 0);
+    }
+    Due.is("of fill(0) 15", fuller.digest(), byParts(fuller));
+    LogFlume kept = Due.told("", NINES, "h1s");
+    kept.event(0, 5, 15);
+    kept.event(2, 10, 2);
+    Due.is("of spare(0) 1, never() 3, chance(5) 11 by 16", kept.digest(), byParts(kept));
+    LogFlume later = Due.told("", "1111111111111111", "b2s;b1s");
+    Due.is("of send(0, 0) 2", later.digest(), byParts(later));
+    for (int span = 10; span <= 11; span++) {
+      LogFlume season = ChanceBounds.poledOverBurst(span);
+      Due.is("of seasons(7, 11), not 10 nor 12", season.digest(), byParts(season));
+    }
   }
 }

@@ -194,6 +194,7 @@ final class EventBounds {
       read(1, form, 1, 2, 0, 1, 3);
       read(2, form, 1, 2, 0, 1, 3, 0);
       LogFlume x = laid(form, 1, 2, 0, 1, 3, 0, 1, 4);
+      Due.is("not yet", x.flume(2, 0, 0), 5);
       Due.is("read", x.read(3), 2);
       Due.is("the first", x.flume(2, 0, 0), 0);
       Due.is("the second", x.flume(3, 0, 0), 0);

@@ -138,6 +138,15 @@ final class SeenBounds {
     Due.is("5 alike behind 22, 4 behind 23", Due.told("", "5", "v1s").ask(0), 23);
     Due.is("5 alike behind 1, 4 behind 2 and later", Due.told("", "5", "a1s").ask(0), 2);
     Due.is("one less in each MINUTE, until 1", Due.told("", "8", "a1s").ask(0), 8);
+    // Behind 2 six are alike. Behind 16 the log is OUT by eight, but by five of these the other
+    // one is in 15 still, so that by the heads of both no more than five are alike.
+    LogFlume x = Due.told("23", "9638", "a7s;a5s");
+    x.event(2, 1, 1);
+    Due.is("by the heads of both", x.ask(0), 16);
+    // The second is OUT ahead of the first, which lies in 1 or in 2 from 18 on if it is 9 or 8 deep.
+    LogFlume y = Due.told("", "9000000001111111", "q1s;a1s");
+    Due.is("8 and 9", seen(y, new int[] {19, 3, 8}).draughts(0), 0x300);
+    Due.is("one SPAN tells", y.ask(0), 18);
   }
 
   private static void askOfLikeOnes() {
