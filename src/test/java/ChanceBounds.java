@@ -101,6 +101,28 @@ final class ChanceBounds {
     fraction(y, 3, 0, 1, 1);
     fraction(y, 3, 1, 0, 1);
     fraction(y, 3, 2, 0, 1);
+    eachOfEight();
+  }
+
+  /** Behind the burst all are a MINUTE later, which is too late for the eighth alone. */
+  private static void eachOfEight() {
+    LogFlume x = Due.told("", NINES, "a1s;a1s;a1s;a1s;a1s;a1s;a1s;a1s");
+    x.event(2, 1, 0);
+    for (int log = 0; log < 7; log++) {
+      fraction(x, 6, log, 1, 1);
+    }
+    fraction(x, 6, 7, 5, 8);
+    // This one keeps the second, or by the other burst the first, and all behind it:
+    // the eighth is too late by either, the seventh by both.
+    x.event(2, 8, 6);
+    fraction(x, 6, 6, 55, 64);
+    fraction(x, 6, 7, 25, 64);
+    LogFlume y = Due.told("", NINES, "x1s;a1s;b1s;h1s");
+    y.event(2, 23, 15);
+    fraction(y, 4, 0, 0, 1);
+    fraction(y, 4, 1, 1, 1);
+    fraction(y, 4, 2, 1, 1);
+    fraction(y, 4, 3, 3, 4);
   }
 
   /** LOTS of 10 by numbers that do not wrap by themselves. */

@@ -188,5 +188,9 @@ final class CountBounds {
       LogFlume season = ChanceBounds.poledOverBurst(span);
       Due.is("of seasons(7, 11), not 10 nor 12", season.digest(), byParts(season));
     }
+    // The first LOT of 7 is 2, so that it lies in 0; by those of 6 and of 8 it is OUT.
+    LogFlume seed = Due.told("", "", "a3s");
+    Due.is("OUT by seed 6 and 8, not by 7", 100 * seed.seasons(6, 11, 0) + 10 * seed.seasons(7, 11, 0) + seed.seasons(8, 11, 0), 101);
+    Due.is("of seasons(7, 11), not of 6 nor 8", seed.digest(), byParts(seed));
   }
 }

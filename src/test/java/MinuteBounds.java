@@ -109,6 +109,8 @@ final class MinuteBounds {
   private static void firstJam() {
     Says.terms("JAM: the first MINUTE in which any is BLOCKED; NONE.");
     Due.is("as early as can be", Due.told("", "9", "a9s;a1s").jam(), 2);
+    Due.is("the first LOG behind the second", Due.told("", "9", "b1s;a9s").jam(), 2);
+    Due.is("the eighth LOG alone", Due.told("", "9", "x1s;x1s;x1s;x1s;x1s;x1s;a9s;b1s").jam(), 2);
     LogFlume x = Due.told("", NINES, "k1s;k1s");
     Due.is("none", x.jam(), NONE);
     x.event(2, 23, 12);

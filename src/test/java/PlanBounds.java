@@ -24,6 +24,7 @@ final class PlanBounds {
     steepAsked();
     fillAsked();
     spareAsked();
+    askedInAnyOrder();
   }
 
   private static void send(LogFlume x, int log, int which, int many) {
@@ -238,5 +239,25 @@ final class PlanBounds {
     for (int i : new int[] {LEAST, -2, 2, MOST}) Due.is("spare(" + i + ")", x.spare(i), BAD);
     Due.is("spare(-1)", x.spare(-1), NONE);
     Due.is("spare(1)", x.spare(1), NONE);
+  }
+
+  /** What was found for one plan is nothing to the next one. */
+  private static void askedInAnyOrder() {
+    Says.promise(20, "FILL: which (what = 0), how many (1).");
+    LogFlume x = poled("a9s;t1s", 1);
+    for (int round = 0; round < 2; round++) {
+      send(x, 0, 20, 1);
+      fill(x, 0, 0);
+      send(x, 0, 20, 1);
+      steep(x, 0, 0);
+      fill(x, 0, 0);
+      send(x, 1, 0, 0);
+    }
+    LogFlume y = lastWater("0000000000000007");
+    fill(y, 15, 1);
+    steep(y, 12, 1);
+    Due.is("told otherwise", y.undo(1), 15);
+    fill(y, 0, 0);
+    send(y, 0, 0, 0);
   }
 }
