@@ -2,26 +2,20 @@ import java.lang.reflect.Constructor;
 import java.lang.reflect.Field;
 import java.lang.reflect.Method;
 import java.lang.reflect.Modifier;
-import java.nio.file.Files;
-import java.nio.file.Path;
 import java.util.Arrays;
 import java.util.Set;
 import java.util.TreeSet;
-import java.util.regex.Matcher;
-import java.util.regex.Pattern;
 
-/** The face of the document, and the rules of LANGUAGE.md that can be seen in the class or in its text. */
+/** The face of the document, as rule 1 of LANGUAGE.md asks for it; the other rules are held by RulesTest. */
 public final class FaceTest {
   private static final String FACE = "type 2, wipe 1, undo 1, fault 1, span 2, log 2, event 3, back 0, read 1, flume 3, at 3, all 2, "
       + "out 2, jam 0, left 1, worst 0, send 2, steep 1, fill 1, spare 1, seen 3, forget 0, never 0, draughts 1, grade 1, ask 1, "
       + "chance 3 long, seasons 3, sheet 3, lose 1, lay 4, get 3, copy 5, write 2, count 1, digest 0 long";
 
-  public static void main(String[] args) throws Exception {
+  public static void main(String[] args) {
     methods();
     constants();
     classesInside();
-    words();
-    lengths();
     Due.end();
   }
 
@@ -86,39 +80,6 @@ public final class FaceTest {
       for (Method m : c.getDeclaredMethods()) {
         yes(m + " has no public one's name", !names.contains(m.getName()));
       }
-    }
-  }
-
-  private static String source() throws Exception {
-    String text = Files.readString(Path.of("src/main/java/LogFlume.java"));
-    return text.replaceAll("(?s)/\\*.*?\\*/", " ").replaceAll("//[^\n]*", " ");
-  }
-
-  private static void words() throws Exception {
-    String text = source();
-    String[] ruledOut = {"throw", "throws", "try", "catch", "synchronized", "assert", "import", "package", "protected", "Exact", "native",
-      "volatile", "transient", "hashCode", "equals", "toString", "Object", "double", "float"};
-    for (String word : ruledOut) {
-      yes("no word " + word, !Pattern.compile("\\b" + word + "\\b").matcher(text).find());
-    }
-    yes("no lambda", !text.contains("->"));
-    yes("no method reference", !text.contains("::"));
-    yes("plain signs alone", text.chars().allMatch(c -> c == '\n' || c >= 32 && c < 127));
-    yes("no library but this", Pattern.compile("\\b(java|javax)\\.").matcher(text).find() == false);
-    Matcher calls = Pattern.compile("\\b(System|Math|Integer|Long|Arrays)\\.(\\w+)").matcher(text);
-    Set<String> may = new TreeSet<>(Arrays.asList("System.arraycopy", "Math.min", "Math.max", "Integer.bitCount"));
-    while (calls.find()) yes("may use " + calls.group(), may.contains(calls.group()));
-  }
-
-  /** A method begins at a line of its own and ends at the brace that stands as far in. */
-  private static void lengths() throws Exception {
-    String[] lines = source().split("\n");
-    for (int i = 0; i < lines.length; i++) {
-      if (!lines[i].matches("( {2}| {4})\\S.*\\) \\{")) continue;
-      String end = lines[i].startsWith("    ") ? "    }" : "  }";
-      int to = i;
-      while (to < lines.length && !lines[to].equals(end)) to++;
-      yes("short: " + lines[i].trim(), to - i < 60);
     }
   }
 }
